@@ -29,7 +29,8 @@ public final class FaultTest {
     }
 
     private static void cannotStand() {
-        for (String text : new String[] {"claim", "known", "x", ";", "7", "kitchens;", "Kitchen;", "#"}) {
+        for (String text : new String[] {"claim", "known", "x", ";", "7", "kitchens;", "kitchenz;",
+            "xitchen;", "Kitchen;", "#"}) {
             fault(text, 1, 0);
         }
         fault("kitchen", 1, 7);

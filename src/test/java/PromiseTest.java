@@ -12,7 +12,12 @@ public final class PromiseTest {
 
     public static void main(String[] args) {
         newObject();
+        noKitchen(new LieKitchen());
+        LieKitchen gone = Check.with(K);
+        Check.kitchen(gone, "");
+        noKitchen(gone);
         tape();
+        fullTape();
         kitchen();
         partsOfAKitchen();
         storyByItself();
@@ -60,6 +65,37 @@ public final class PromiseTest {
         due("spares", x.spares(0), -200);
     }
 
+    /** Without a kitchen there is none such, whatever is asked. */
+    private static void noKitchen(LieKitchen x) {
+        long[] answers = {x.claim(0, 0), x.law(0, 0), x.person(0, 0), x.truth(), x.breaks(0), x.broken(0), x.holds(0),
+            x.untrue(0), x.costs(0), x.stories(), x.story(0), x.fewest(), x.told(), x.cheap(), x.cheaply(), x.clash(),
+            x.clashed(), x.lie(0), x.needs(0), x.risk(0, 1, 0), x.safest(), x.own(0), x.owning(), x.confess(),
+            x.confessed(), x.spread(0), x.apart(0, 1), x.trusts(0), x.catches(), x.caught(), x.knowing(0), x.fixed(0),
+            x.judge(0), x.fits(0), x.must(0, 0), x.least(0), x.lies(0), x.ask(0), x.leaves(0), x.likely(0, 0),
+            x.say(0, 0), x.unsay(), x.anew(), x.said(0), x.may(0), x.left(), x.forced(), x.lied(), x.still(),
+            x.witnesses(0), x.mates(), x.mated(), x.quiet(0), x.few(), x.whom(), x.slips(0), x.naive(0), x.change(0),
+            x.drawn(0, 0, 1, 0), x.luck(0, 1, 0, 1), x.learn(0, 0), x.wish(0, 0), x.price(0, 1, 0)};
+        for (int i = 0; i < answers.length; i++) {
+            due("no kitchen, " + i, answers[i], -2);
+        }
+        due("spares", x.spares(0), -200);
+    }
+
+    private static void fullTape() {
+        LieKitchen x = new LieKitchen();
+        String text = "kitchen;" + " ".repeat(1600 - 8 - 24) + "claim so cost 1 found 1;";
+        due("1,600 bytes", Check.kitchen(x, text), 2);
+        due("without the last", Check.kitchen(x, " " + text.substring(0, 1599)), -4);
+        due("fault(1)", x.fault(1), 1600);
+        due("count(6)", x.count(6), 1600);
+        due("a word of 1,600", Check.kitchen(x, "a".repeat(1600)), -4);
+        due("fault(1)", x.fault(1), 0);
+        due("a number", Check.kitchen(x, "kitchen;known " + "0".repeat(1586)), -4);
+        due("fault(1)", x.fault(1), 14);
+        due("signs", Check.kitchen(x, "kitchen" + ";".repeat(1593)), -4);
+        due("fault(1)", x.fault(1), 8);
+    }
+
     private static void tape() {
         LieKitchen x = new LieKitchen();
         for (int i = 1; i <= 80; i++) {
@@ -74,6 +110,7 @@ public final class PromiseTest {
         due("feed to 1,581", x.feed(0, 0, 0, 0, 0), -1);
         due("end(1580)", x.end(1580), 1580);
         due("feed to 1,580", x.feed(0, 0, 0, 0, 0), 1600);
+        due("end(1600)", x.end(1600), 1600);
         due("end(0)", x.end(0), 0);
         due("end(1)", x.end(1), -1);
         due("feed", x.feed(0x6b697463, 0x68656e3b, 0x20202020, 0x0a0a0a0a, 0x20202020), 20);
@@ -227,6 +264,10 @@ public final class PromiseTest {
         x.wish(2, -1);
         due("clash", x.clash(), 1);
         due("clashed", x.clashed(), 8);
+        x.wish(3, -1);
+        x.wish(1, 1);
+        due("both can be had", x.clash(), -1);
+        due("nothing is owned to", x.confess() * 16 + x.confessed(), 160);
     }
 
     private static void lies() {
@@ -516,10 +557,24 @@ public final class PromiseTest {
         due("left", x.left(), 2);
         due("still", x.still(), 2);
         due("say", x.say(0, 1), 1);
+        due("lied", x.lied(), 2);
         due("refused", x.say(2, 1), -5);
         due("count(7)", x.count(7), 2);
         due("unsay", x.unsay(), 1);
         due("left", x.left(), 2);
+        due("may(0)", x.may(0), 3);
+        due("say", x.say(0, 0), 1);
+        due("said(1)", x.said(1), 0);
+        due("anew", x.anew(), 2);
+        LieKitchen y = Check.with("kitchen;claim so cost 1 found 1;");
+        due("may(0)", y.may(0), 3);
+        due("say", y.say(0, 0), 1);
+        due("may(0)", y.may(0), 1);
+        due("forced", y.forced(), 0);
+        due("unsay", y.unsay(), 0);
+        due("count(7)", y.count(7), 0);
+        due("unsay", y.unsay(), -5);
+        due("may(0)", y.may(0), 3);
     }
 
     private static void mates() {
@@ -601,6 +656,10 @@ public final class PromiseTest {
         due("nothing untrue", x.drawn(0, 5, 60, 0), 0);
         due("never", x.drawn(0, 13, 60, 0), 0);
         due("seed 0 draws 0", x.drawn(0, 4, 1, 0), 1);
+        x.price(2, 2, 100);
+        x.price(1, 2, 100);
+        due("each once", x.drawn(1, 2, 2, 0), 2);
+        due("the first claim", x.drawn(1, 2, 2, 2), 1);
         due("the last seed", x.drawn(2000000000, 5, 60, 1), -1);
         due("seed", x.drawn(-1, 5, 1, 0) + x.drawn(2000000001, 5, 1, 0), -4);
         due("story", x.drawn(0, 16, 1, 0) + x.drawn(0, -1, 1, 0), -4);
@@ -635,7 +694,8 @@ public final class PromiseTest {
         due("none such", x.wish(4, 0) + x.wish(-1, 0) + x.wish(0, 2) + x.wish(0, -2), -8);
         due("price", x.price(1, 3, 99), -1);
         due("price", x.price(1, 3, -1), 99);
-        due("price", x.price(1, 1, 99), 3);
+        due("price", x.price(1, 1, 0), 3);
+        due("price", x.price(1, 1, 99), 0);
         due("price", x.price(1, 2, 100), 20);
         due("claim", x.claim(1, 1), 99);
         due("claim", x.claim(1, 2), 100);
@@ -660,6 +720,10 @@ public final class PromiseTest {
         x.say(0, 0);
         due("count", x.count(6) * 100 + x.count(7) * 10 + x.count(8), 2011);
         due("count(-1)", x.count(-1), -1);
+        for (int slot = 0; slot < 4; slot++) {
+            x.row(slot, 1, slot);
+        }
+        due("count(8)", x.count(8), 4);
     }
 
     private static void images() {
