@@ -1719,40 +1719,30 @@ public final class LieKitchen {
         }
 
         private void findTokens() {
-            int next = 0;
-            while (next < tape.length) {
-                int start = next;
-                int first = tape.byteAt(start);
-                next = endOfToken(start);
-                for (int i = start; i < next; i++) {
-                    tokens[i] = NO_TOKEN;
-                }
-                if (tape.hasLetter(start)) {
-                    tokens[start] = WORD;
-                } else if (tape.hasDigit(start)) {
-                    tokens[start] = NUMBER + numberAt(start, next);
-                } else if (first != ' ' && first != '\n') {
-                    tokens[start] = first == ';' ? SIGN : BAD;
-                }
+            for (int i = 0; i < tape.length; i++) {
+                tokens[i] = tokenFrom(i);
             }
             tokens[tape.length] = END;
         }
 
-        /** Behind start at least. */
-        private int endOfToken(int start) {
-            boolean word = tape.hasLetter(start);
-            boolean number = tape.hasDigit(start);
-            int next = start + 1;
-            while (next < tape.length
-                    && (word && tape.hasLetter(next) || number && tape.hasDigit(next))) {
-                next++;
+        /** A letter behind a letter, and a digit behind a digit, begin nothing. */
+        private int tokenFrom(int i) {
+            if (tape.hasLetter(i)) {
+                return tape.hasLetter(i - 1) ? NO_TOKEN : WORD;
             }
-            return next;
+            if (tape.hasDigit(i)) {
+                return tape.hasDigit(i - 1) ? NO_TOKEN : NUMBER + numberFrom(i);
+            }
+            int sign = tape.byteAt(i);
+            if (sign == ' ' || sign == '\n') {
+                return NO_TOKEN;
+            }
+            return sign == ';' ? SIGN : BAD;
         }
 
-        private int numberAt(int start, int end) {
+        private int numberFrom(int start) {
             int number = 0;
-            for (int i = start; i < end; i++) {
+            for (int i = start; i < tape.length && tape.hasDigit(i); i++) {
                 number = Math.min(LARGEST, 10 * number + tape.byteAt(i) - '0');
             }
             return number;

@@ -134,6 +134,9 @@ public final class EdgesOfAnswersTest {
                 "judge 0 = 1", row(0, 0, 1, 1, 0, 1, 2, 0, 3, 0), "judge 0 = 4", row(0, 0, 1, 1, 0, 1, 2, 1, 3, 0), "judge 0 = 2",
                 row(0, 0, 1, 1, 1, 0), "judge 0 = 1", row(0, 0, 1, 1, 1, 1, 1, 1), "judge 0 = 3", row(0, 0, 3, 1), "judge 0 = 0");
         Sentence.holds(39, words, ">" + IMPOSSIBLE, row(0, 0), "judge 0 = 0", row(0, 0, 0, 1), "judge 0 = 0");
+        Sentence.holds(39, words, ">" + TWO + "known 0;", row(0, 0, 0, 0, 0, 0), "judge 0 = 0; fits 0 = 0", row(0, 0, 0, 0, 1, 0),
+                "judge 0 = 0; fits 0 = 0; must 0 1 = 0", row(0, 0, 1, 0, 1, 1, 1, 1), "judge 0 = 1; fits 0 = 0; leaves 0 = 0",
+                row(0, 0, 0, 1, 1, 1), "judge 0 = 2; fits 0 = 1");
         // Stories need only be sound: what is wanted or said does not matter.
         Sentence.holds(39, words, ">" + K, row(0, 0, 0, 1), "judge 0 = 1; say 0 0 = 1; judge 0 = 1; fits 0 = 2");
     }

@@ -109,6 +109,8 @@ public final class EdgesOfPeopleTest {
                 + "naive 1 = 479; learn 5 1 = 0; change 0 = 6; wish 6 1 = -1; change 0 = 7; wish 7 1 = -1; change 0 = 8;"
                 + "naive 1 = 255; learn 8 1 = 0; naive 0 = 0; naive 1 = 511; naive 2 = 0; wish 7 0 = 1; naive 0 = 0; naive 1 = 383;"
                 + "naive 2 = 1");
+        Sentence.holds(TERMS, "that is not KNOWN, has nothing WANTED", ">" + NINE + "known 0;wants 0;law some not 0;", "naive 0 = 0;"
+                + "naive 1 = 511; naive 2 = 0; wish 0 -1 = 1; naive 0 = 0; learn 0 0 = 1; naive 0 = 1; naive 1 = 510; naive 2 = 1");
         Sentence.holds(TERMS, "till none is broken, or that LAW has no such CLAIM.", ">" + NINE + "law some not 0;law some 0 not 1;"
                 + "law some 0 1;law some not 2;", "naive 0 = 2; change 0 = 0; change 1 = 1; change 2 = -1; naive 1 = 508;"
                 + "breaks 508 = 2; naive 2 = 0");

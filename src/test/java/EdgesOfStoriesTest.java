@@ -70,6 +70,10 @@ public final class EdgesOfStoriesTest {
                 + "holds 1 = 1; stories = 1");
         Sentence.holds(TERMS, "HOLDS: SOUND, and all that is WANTED as WANTED.", ">" + TWO + "wants not 0;wants 1;",
                 "holds 0 = 0; holds 1 = 0; holds 2 = 1; holds 3 = 0; wish 1 -1 = 1; holds 0 = 1; holds 2 = 1; holds 1 = 0");
+        Sentence.holds(TERMS, "HOLDS: SOUND, and all that is WANTED as WANTED.", ">" + TWO + "known 0;wants not 0;"
+                + "person cost 1 knows 1;", "stories = 0; story 0 = -1; left = 0; may 0 = 0; may 1 = 0; forced = 0; still = -1;"
+                + "knowing 0 = 0; knowing 1 = 0; knowing 2 = 0; fixed 0 = 0; fixed 1 = 0; quiet 0 = -1; quiet 1 = -1; trusts 0 = 0;"
+                + "say 0 0 = -5; say 0 1 = -5; say 1 0 = -5; told = -1; cheaply = -1; mated = -1; whom = -1; safest = -1");
         Sentence.holds(TERMS, "(TRUTH need not be SOUND.)", ">" + K, "truth = 5; breaks 5 = 1; holds 5 = 0",
                 ">" + IMPOSSIBLE, "truth = 1; breaks 1 = 0; holds 1 = 0");
         Sentence.holds(TERMS, "UNTRUE: a CLAIM that is not as in TRUTH.", ">" + TWO, "untrue 0 = 1; untrue 1 = 0; untrue 2 = 3;"
@@ -287,6 +291,9 @@ public final class EdgesOfStoriesTest {
         Sentence.holds(30, "NONE: by none; -2: there is no KITCHEN.", "confess = -2; confessed = -2", ">kitchen;", "confess = 0;"
                 + "confessed = 0", ">" + IMPOSSIBLE, "confess = -1; confessed = -1; price 0 3 0 = -1; confess = -1",
                 ">" + ONE + "known 0;wants not 0;", "confess = -1; confessed = -1; price 0 3 7 = -1; confess = 7; confessed = 1");
+        // What is owned to is told as it is: a wish that a story must go against, though it is so, is no way out.
+        Sentence.holds(30, "(none of which can not be owned to; the empty one, too)", ">" + ONE + "law some not 0;wants 0;",
+                "confess = -1; confessed = -1; price 0 3 5 = -1; confess = -1; confessed = -1; wish 0 0 = 1; confess = 1; confessed = 0");
         Sentence.holds(31, "Which, as bits: the least set by which it is. NONE, -2 likewise.", "confessed = -2",
                 ">" + NINE.replace("found 1", "found 1 owns 1") + all, "confess = 9; confessed = 0; price 3 3 0 = 1;"
                 + "confess = 8; confessed = 8; price 0 3 0 = 1; confessed = 9; price 1 1 2 = 1; confess = 7; confessed = 11;"
@@ -353,6 +360,8 @@ public final class EdgesOfStoriesTest {
         Sentence.holds(38, "as bits; 0 without any.", ">" + IMPOSSIBLE, "fixed 0 = 0; fixed 1 = 0", ">kitchen;", "fixed 0 = 0;"
                 + "fixed 1 = 0", ">" + NINE, "fixed 0 = 0; fixed 1 = 0; wish 8 1 = -1; wish 0 0 = -1; fixed 0 = 256; fixed 1 = 1",
                 ">" + CHAIN, "wish 8 1 = -1; fixed 0 = 511; fixed 1 = 0; wish 8 -1 = 1; wish 0 0 = -1; fixed 0 = 0; fixed 1 = 511");
+        Sentence.holds(38, "CLAIMS that are so in all STORIES that HOLD (what 0), not in all (1)", ">" + TWO
+                + "law some 0 1;law bars 0 1;", "stories = 2; fixed 0 = 0; fixed 1 = 0; may 0 = 3; may 1 = 3; forced = 0");
         Sentence.stays(38, words, RICH, "fixed 2 = -2; fixed -1 = -2; fixed 0 = ?");
     }
 
