@@ -280,6 +280,11 @@ public final class OracleTest {
             for (int k = 0; k <= random.nextInt(5) && k < 4; k++) {
                 literal(tokens, random.nextInt(claims));
             }
+            // Like ones and, now and then, a fifth.
+            int more = random.nextInt(30) == 0 ? random.nextInt(7) : 0;
+            for (int k = 0; k < more; k++) {
+                literal(tokens, random.nextInt(Math.min(2, claims)));
+            }
         } else {
             tokens.add(kind == 1 ? "if" : "bars");
             literal(tokens, a);
