@@ -160,6 +160,10 @@ public final class EdgesOfPeopleTest {
         Sentence.holds(65, words, "drawn 0 0 1 0 = -2", ">" + K, wrong + "drawn 0 5 1 0 = 0; drawn 2000000000 5 60 0 = 0;"
                 + "drawn 0 15 1 1 = ?; drawn 0 5 1 2 = -1", ">kitchen;", "drawn 0 1 1 0 = -2; drawn 0 0 1 0 = 0");
         Sentence.stays(65, words, RICH, wrong + "drawn 1 2 9 0 = ?");
+        Sentence.holds(65, "EVENINGS (VI) of a STORY from a seed (0 .. 2,000,000,000), n (1 .. 60) days", ">" + NINE.replace("found 1",
+                "found 5"), "drawn 0 510 1 0 = 1; drawn 2000000000 510 1 0 = 1; drawn 1 510 60 0 = 1; drawn 1 510 1 0 = 0;"
+                + "drawn 1999999999 510 1 0 = 0; drawn -1 510 1 0 = -2; drawn 2000000001 510 1 0 = -2; drawn 1 510 0 0 = -2;"
+                + "drawn 1 510 61 0 = -2");
         Sentence.holds(65, words, ">" + NINE, "drawn 0 511 60 0 = 0; drawn 0 512 60 0 = -2; drawn 0 0 60 0 = ?; drawn 0 -1 60 0 = -2");
     }
 

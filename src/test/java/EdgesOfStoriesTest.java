@@ -16,6 +16,7 @@ public final class EdgesOfStoriesTest {
 
     public static void main(String[] args) {
         lawsAre();
+        storiesAre();
         soundAndHolding();
         truth();
         breaksAndBroken();
@@ -62,6 +63,22 @@ public final class EdgesOfStoriesTest {
                 "breaks 0 = -1; breaks 1 = 0; breaks 2 = 1; breaks 3 = -1");
         Sentence.holds(TERMS, "bars A B: one of both is not.", ">" + TWO + "law bars 0 1;law bars not 0 not 1;law bars 0 not 1;",
                 "breaks 0 = 1; breaks 1 = 2; breaks 2 = -1; breaks 3 = 0");
+    }
+
+    private static void storiesAre() {
+        String words = "STORY: 0 .. 2 to the CLAIMS less 1 (bit c: CLAIM c is said to be so).";
+        for (int claims = 0; claims < 10; claims++) {
+            String text = "kitchen;" + "claim not cost 1 found 1;".repeat(claims);
+            int last = (1 << claims) - 1;
+            StringBuilder bits = new StringBuilder();
+            for (int c = 0; c < claims; c++) {
+                bits.append("wish ").append(c).append(" 1 = -1; holds ").append((2 << c) - 1).append(" = 1; holds ")
+                        .append((2 << c) - 1 & ~(1 << c)).append(" = 0;");
+            }
+            Sentence.holds(TERMS, words, ">" + text, "holds 0 = 1; holds " + last + " = 1; holds " + (last + 1) + " = -2;"
+                    + "holds -1 = -2; stories = " + (last + 1) + "; story " + last + " = " + last + "; untrue " + last + " = " + last
+                    + ";" + bits + "stories = 1; story 0 = " + last);
+        }
     }
 
     private static void soundAndHolding() {

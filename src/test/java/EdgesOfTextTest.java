@@ -11,6 +11,7 @@ public final class EdgesOfTextTest {
         firstLine();
         linesEnd();
         claimsAre();
+        ownsMayLack();
         amounts();
         literals();
         toldAhead();
@@ -66,6 +67,16 @@ public final class EdgesOfTextTest {
         Sentence.fault(words, "kitchen;;", 1, 8);
         Sentence.fault(words, ONE + ";", 1, 32);
         Sentence.faultAtLast(words, ONE + "known 0 known", 1);
+    }
+
+    private static void ownsMayLack() {
+        String words = "claim IS cost N found N [owns N]";
+        Sentence.holds(TERMS, words, ">kitchen;claim so cost 2 found 3;claim not cost 4 found 5 owns 6;", "claim 0 1 = 2; claim 0 2 = 3;"
+                + "claim 0 3 = -1; claim 1 1 = 4; claim 1 2 = 5; claim 1 3 = 6");
+        for (String line : new String[] {"claim cost", "claim so found", "claim so cost 1 owns", "claim so cost 1 ;",
+            "claim so cost 1 found 1 owns ;", "claim so cost 1 found 1 owns 1 owns", "claim so owns", "claim so cost 1 found 1 cost"}) {
+            Sentence.faultAtLast(words, "kitchen;" + line, 1);
+        }
     }
 
     private static void claimsAre() {
