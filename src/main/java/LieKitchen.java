@@ -1595,26 +1595,17 @@ public final class LieKitchen {
             int so = 0;
             int not = 0;
             boolean more = true;
-            for (int i = 0; i < TAPE_LIMIT && more; i++) {
-                int start = at;
-                boolean full = Integer.bitCount(so) + Integer.bitCount(not) >= LITERAL_LIMIT;
+            for (int i = 0; i < LITERAL_LIMIT && more; i++) {
                 int literal = readLiteral(0);
-                int fresh = (soBit(literal) & ~so) | (soBit(opposite(literal)) & ~not);
-                // Like ones count once, so only one that is fresh can be too many.
-                if (full && (fault == 0 ? fresh != 0 : isUntoldBehindNot(start))) {
-                    fault = TOO_MANY;
-                    place = start;
-                }
                 so |= soBit(literal);
                 not |= soBit(opposite(literal));
                 more = fault == 0 && (token() >= NUMBER || isWord("not"));
             }
+            if (more) {
+                // A number out of its bounds is the lesser fault at the same place.
+                fail(token() >= NUMBER + into.claims ? OUT_OF_BOUNDS : TOO_MANY);
+            }
             into.addLaw(so, not);
-        }
-
-        /** Such a literal's own first token stands ahead of the number that is out of its bounds. */
-        private boolean isUntoldBehindNot(int start) {
-            return fault == OUT_OF_BOUNDS && place > start;
         }
 
         private void readIf() {

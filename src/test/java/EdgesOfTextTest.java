@@ -157,12 +157,10 @@ public final class EdgesOfTextTest {
         Sentence.holds(TERMS, words, ">" + five + "law some 1 1;", "law 0 0 = 2; law 0 1 = 0; breaks 0 = 0; breaks 2 = -1");
         Sentence.holds(TERMS, words, ">" + five + "law some not 1 not 1 not 1;", "law 0 0 = 0; law 0 1 = 2");
         Sentence.holds(TERMS, words, ">" + five + "law some 2 2 2 2;", "law 0 0 = 4; law 0 1 = 0");
-        Sentence.holds(TERMS, words, ">" + five + "law some 2 2 2 2 2;", "law 0 0 = 4; law 0 1 = 0");
-        Sentence.holds(TERMS, words, ">" + five + "law some 0 1 2 3 3 2 1 0 0;", "law 0 0 = 15; law 0 1 = 0");
-        Sentence.holds(TERMS, words, ">" + five + "law some" + " not 4".repeat(200) + ";", "law 0 0 = 0; law 0 1 = 16");
-        Sentence.fault(words, five + "law some 0 1 2 3 3 not 3", 3, five.length() + 19);
+        Sentence.holds(TERMS, words, ">" + five + "law some 3 1 3 1;", "law 0 0 = 10; law 0 1 = 0");
         Sentence.holds(TERMS, words, ">" + five + "law some 2 not 2;", "law 0 0 = 4; law 0 1 = 4; stories = 32");
         Sentence.faultAtLast(words, five + "law some 0 1 2 3 4", 3);
+        Sentence.faultAtLast(words, five + "law some 2 2 2 2 2", 3);
     }
 
     private static void unlikeClaims() {
@@ -370,28 +368,29 @@ public final class EdgesOfTextTest {
     private static void fifthLiteral() {
         String words = "a fifth L of some, at its first TOKEN.";
         String three = "kitchen;" + "claim so cost 1 found 1;".repeat(3);
-        for (String four : new String[] {"0 1 not 0 not 1", "not 1 not 0 1 0", "0 0 1 not 0 1 not 1 0"}) {
+        // A fifth is one too many whether it, or one ahead of it, is like another or not.
+        for (String four : new String[] {"0 1 not 0 not 1", "0 1 2 not 0", "not 0 not 1 not 2 0", "0 0 0 0", "1 1 not 1 0"}) {
             String law = three + "law some " + four;
             int place = law.length() + 1;
             Sentence.good(words, law + ";", 5);
-            Sentence.good(words, law + " not 1 1 0 not 0;", 5);
-            Sentence.fault(words, law + " 2;", 3, place);
-            Sentence.fault(words, law + " not 2;", 3, place);
+            for (String fifth : new String[] {"0", "1", "2", "not 0", "not 2", "not", "not;", "not 3", "not so", "not not"}) {
+                Sentence.fault(words, law + " " + fifth + ";", 3, place);
+                Sentence.fault(words, law + " " + fifth, 3, place);
+            }
             Sentence.fault(words, law + " \n not\n2;", 3, place + 2);
-            Sentence.fault(words, law + " not 3;", 3, place);
             Sentence.fault(words, law + " 2 0 1;", 3, place);
-            Sentence.fault(words, law + " 0 2;", 3, place + 2);
+            Sentence.fault(words, law + " 0 3;", 3, place);
             Sentence.fault(words, law + " 3;", 2, place);
             Sentence.fault(words, law + " so;", 1, place);
-            Sentence.fault(words, law + " not so;", 1, place + 4);
-            Sentence.fault(words, law + " not", 1, place + 3);
         }
-        // With three unlike ones, the next may be any.
-        String law = three + "law some 0 1 0 not 0";
-        Sentence.good(words, law + " 2;", 5);
+        String law = three + "law some 0 0 0";
+        Sentence.good(words, law + " 0;", 5);
         Sentence.fault(words, law + " 3;", 2, law.length() + 1);
         Sentence.fault(words, law + " not 3;", 2, law.length() + 5);
-        Sentence.fault(words, law + " 2 not 1;", 3, law.length() + 3);
+        Sentence.fault(words, law + " not;", 1, law.length() + 4);
+        // Each law counts its own.
+        Sentence.good(words, law + " 1;law some 0 1 2 not 2;", 6);
+        Sentence.fault(words, law + " 1;law some 0 1 2 not 2 2;", 3, law.length() + 24);
     }
 
     // ---- promises 1 to 8

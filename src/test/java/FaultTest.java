@@ -111,17 +111,15 @@ public final class FaultTest {
     }
 
     private static void fifthLiteral() {
-        String four = TWO + "law some 0 1 1 not 0 not 1";
-        Check.due("four", Check.kitchen(new LieKitchen(), four + ";"), 4);
-        Check.due("like ones", Check.kitchen(new LieKitchen(), four + " 0 not 1 1;"), 4);
-        Check.due("one", Check.kitchen(new LieKitchen(), ONE + "law some 0 0 0 0 0 0;"), 3);
+        String four = ONE + "law some 0 0 0 not 0";
+        Check.due("four", Check.kitchen(new LieKitchen(), four + ";"), 3);
+        lastToken(four + " 0", 3);
+        fault(four + " not 0;", 3, four.length() + 1);
+        fault(four + " not", 3, four.length() + 1);
         fault(four + " not 9", 3, four.length() + 1);
-        fault(four + " 2;", 2, four.length() + 1);
-        fault(four + " 0 2;", 2, four.length() + 3);
+        fault(four + " 1;", 2, four.length() + 1);
+        fault(four + " 0 1;", 3, four.length() + 1);
         fault(four + " so", 1, four.length() + 1);
-        String three = TWO + "claim so cost 1 found 1;law some 0 1 2 not 2";
-        lastToken(three + " 2 9", 2);
-        fault(three + " 2 not 0;", 3, three.length() + 3);
     }
 
     private static void good() {

@@ -201,26 +201,14 @@ final class Oracle {
             switch (take("some", "if", "bars")) {
                 case "some" -> {
                     do {
-                        // Like ones count once; a fifth that is none of them is too many.
-                        int start = at;
-                        boolean not = sees("not");
-                        at += not ? 1 : 0;
-                        if (!seesNumber()) {
-                            throw new Fault(1, peek().place);
+                        if (law.literals.size() == 4) {
+                            if (seesNumber()) {
+                                aClaim(c -> true);
+                                at--;
+                            }
+                            throw new Fault(3, peek().place);
                         }
-                        BigInteger n = new BigInteger(peek().text);
-                        boolean told = n.compareTo(BigInteger.valueOf(into.claims.size())) < 0;
-                        int l = told ? n.intValue() + 1 : 0;
-                        boolean like = told && law.literals.contains(not ? -l : l);
-                        boolean fifth = law.literals.stream().distinct().count() == 4 && !like;
-                        if (!told && (!not || !fifth)) {
-                            throw new Fault(2, peek().place);
-                        }
-                        if (fifth) {
-                            throw new Fault(3, tokens.get(start).place);
-                        }
-                        law.literals.add(not ? -l : l);
-                        at++;
+                        law.literals.add(literal(c -> true));
                     } while (seesNumber() || sees("not"));
                 }
                 case "if" -> {
