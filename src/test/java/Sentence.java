@@ -161,6 +161,10 @@ final class Sentence {
         return new Run(name(promise, words), steps).call(call);
     }
 
+    static long answer(String call, String... steps) {
+        return new Run(call, steps).call(call);
+    }
+
     /** The text has a fault there, and all stays as it was. */
     static void fault(String words, String text, int fault, int place) {
         new Run(name(TERMS, words) + " in " + text, "<" + text, "kitchen = -4; fault 0 = " + fault + "; fault 1 = "
